@@ -116,11 +116,11 @@ public final class DuckWalk {
         lowerNumber = Math.max(1, whole / by);
     }
 
-    /** The greatest number that divides both; 1440 halvings are more than two ints can need. */
+    /** The greatest number that divides both; two ints never need as many as 64 divisions. */
     private static int divisor(int a, int b) {
         int x = Math.abs(a);
         int y = Math.abs(b);
-        for (int n = 0; n < 1440 && y != 0; n++) {
+        for (int n = 0; n < 64 && y != 0; n++) {
             int rest = x % y;
             x = y;
             y = rest;
@@ -647,24 +647,17 @@ public final class DuckWalk {
         if (Integer.bitCount(drawn.untold) > 3) {
             return SPENT;
         }
-        int ways = 0;
+        int well = 0;
         int first = NONE;
-        for (int wide = drawn.leastOf(WIDE); wide <= drawn.mostOf(WIDE); wide++) {
-            for (int round = drawn.leastOf(ROUND); round <= drawn.mostOf(ROUND); round++) {
-                for (int high = drawn.leastOf(HIGH); high <= drawn.mostOf(HIGH); high++) {
-                    trial.course.duck.shape(wide, round, high);
-                    for (int legs = drawn.leastOf(LEGS); legs <= drawn.mostOf(LEGS); legs++) {
-                        trial.course.duck.sizes[LEGS] = legs;
-                        if (trial.walksWell(slope, pace)) {
-                            ways++;
-                            first = first == NONE ? 1000 * wide + 100 * round + 10 * high + legs : first;
-                        }
-                    }
-                }
+        for (int way = drawn.ways() - 1; way >= 0; way--) {
+            trial.course.duck.tellUntold(way);
+            if (trial.walksWell(slope, pace)) {
+                well++;
+                first = trial.course.duck.asNumber();
             }
         }
         tell(first);
-        return ways;
+        return well;
     }
 
     // ======== promises 36 to 39: yards, pushes, jolts, two walkers
@@ -988,12 +981,28 @@ public final class DuckWalk {
             return (untold >> which & 1) != 0;
         }
 
-        int leastOf(int which) {
-            return isUntold(which) ? 1 : sizes[which];
+        /** In how many ways what is not told may be told. */
+        int ways() {
+            int ways = 1;
+            for (int which = WIDE; which <= LEGS; which++) {
+                ways *= isUntold(which) ? 9 : 1;
+            }
+            return ways;
         }
 
-        int mostOf(int which) {
-            return isUntold(which) ? 9 : sizes[which];
+        /** Tells what is not told in one of the ways: they stand as their numbers do. */
+        void tellUntold(int way) {
+            int rest = way;
+            for (int which = LEGS; which >= WIDE; which--) {
+                if (isUntold(which)) {
+                    sizes[which] = 1 + rest % 9;
+                    rest /= 9;
+                }
+            }
+        }
+
+        int asNumber() {
+            return 1000 * sizes[WIDE] + 100 * sizes[ROUND] + 10 * sizes[HIGH] + sizes[LEGS];
         }
 
         int value(int what) {
@@ -1069,7 +1078,8 @@ public final class DuckWalk {
             duck.clear();
             fault = NONE;
             int i = 0;
-            while (i < script.size && fault == NONE) {
+            // Each round goes on by a place at least, or finds a FAULT.
+            for (int n = 0; n < TEXT_MOST && i < script.size && fault == NONE; n++) {
                 i = script.sign(i) == ' ' ? i + 1 : readSize(script, i);
             }
             return fault;
@@ -1081,7 +1091,7 @@ public final class DuckWalk {
             bumps = 0;
             fault = NONE;
             int i = 0;
-            while (i < script.size && fault == NONE) {
+            for (int n = 0; n < TEXT_MOST && i < script.size && fault == NONE; n++) {
                 int sign = script.sign(i);
                 if (sign == ' ') {
                     i++;
