@@ -1425,10 +1425,11 @@ public final class DuckWalk {
             }
         }
 
-        private static int offOf(Course course, Row tocks, int slope) {
+        /** OFF; once it is above the least so far it does not matter by how much. */
+        private int offOf(Course course, Row tocks, int slope) {
             course.begin(slope, tocks.places[0], 0);
             int off = 0;
-            for (int i = 1; i < tocks.size; i++) {
+            for (int i = 1; i < tocks.size && off <= least; i++) {
                 course.stride();
                 int heard = course.end == GOES ? course.pace : 0;
                 off += Math.abs(heard - tocks.places[i]);

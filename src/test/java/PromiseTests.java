@@ -36,6 +36,7 @@ public final class PromiseTests {
         refusalsChangeNothing();
         refusalsInOrder();
         digests();
+        footNoughtFirst();
         System.out.println(wrong == 0 ? "all promises hold" : wrong + " answers are not as due");
         if (wrong != 0) {
             System.exit(1);
@@ -703,6 +704,9 @@ public final class PromiseTests {
         // GAIN is 0 without WAX; 1 beneath both: 10 + 1 - 6 - 1 = 4, 3, 3
         tells(x, "mend on the flat", x.mend(2, 0, 0, 10), 11, 3);
         tells(x, "wax stays", x.about(2, 4), 1, 3);
+        boardBy(x, 2, "u9");
+        // 3 + 9 - 0 - 9 = 3
+        tells(x, "the most WAX", x.mend(0, 2, 0, 3), 99, 3);
         due("mend by none", x.mend(0, 0, 99, 10), DuckWalk.NONE);
         due("asked() stays", x.asked(), 3);
         bad("slope 100", x.mend(0, 0, 100, 10));
@@ -733,6 +737,11 @@ public final class PromiseTests {
         due("odds of two", x.odds(0, 0, 2), 20);
         due("upper()", x.upper(), 9);
         due("lower()", x.lower(), 10);
+        // by LEGS of 9 two SLOPES have GAIN 9, and one each of the others: 10 of 11
+        walkerBy(x, 1, "w5r6h4l9");
+        due("odds in lowest terms", x.odds(1, 0, 2), 11);
+        due("upper()", x.upper(), 10);
+        due("lower()", x.lower(), 11);
         promise = 31;
         tells(x, "limp of two", x.limp(0, 0, 2), 29, 0);
         rowBy(x, 3, 0, 0, 0);
@@ -782,10 +791,16 @@ public final class PromiseTests {
         span = x.lines(1, 0, 10, 1);
         tells(x, "LEGS", x.part(0, 0, 10, 3), 120 - span, span);
         tells(x, "about() stays", x.about(0, 3), 1, 5);
+        walkerBy(x, 1, "w5r6h4l5i2j2");
+        walkerBy(x, 2, "w5r6h4l1i2j2");
+        due("well on the flat", x.going(1, 0, 0, 10), 1);
+        int whole = x.lines(1, 0, 10, 1);
+        span = x.lines(2, 0, 10, 1);
+        tells(x, "SLOPE 0 too", x.part(1, 0, 10, 3), 100 + whole - span, span);
         bad("which 4", x.part(0, 0, 10, 4));
         bad("which -1", x.part(0, 0, 10, -1));
         bad("pace 100", x.part(0, 0, 100, 0));
-        finds(x, "no walker", x.part(2, 0, 10, 0), 1);
+        finds(x, "no walker", x.part(3, 0, 10, 0), 1);
         finds(x, "no board", x.part(0, 2, 10, 0), 1);
     }
 
@@ -801,6 +816,8 @@ public final class PromiseTests {
         due("lower()", x.lower(), 1);
         walkerBy(x, 1, "w9r1h9");
         due("made at three edges", x.made(1, 0, 0, 0), 8);
+        walkerBy(x, 1, "w5r5h1");
+        due("made at one edge", x.made(1, 0, 0, 0), 18);
         bad("slope 100", x.made(0, 0, 100, 0));
         bad("pace 100", x.made(0, 0, 0, 100));
         finds(x, "no walker", x.made(2, 0, 0, 0), 1);
@@ -822,6 +839,7 @@ public final class PromiseTests {
             }
         }
         tells(x, "LEGS not told", x.would(1, 0, 20, 10), ways, first);
+        wouldByTwo();
         walkerBy(x, 1, "w?r?h?l?");
         due("more than 3", x.would(1, 0, 20, 10), DuckWalk.SPENT);
         finds(x, "NOTHING ahead of SPENT", x.would(1, 3, 20, 10), 1);
@@ -829,6 +847,41 @@ public final class PromiseTests {
         walkerBy(x, 1, "w?r?h?");
         due("3 are fine", x.would(1, 0, 20, 10) > 0 ? 1 : 0, 1);
         finds(x, "no walker", x.would(3, 0, 20, 10), 1);
+    }
+
+    private static void wouldByTwo() {
+        DuckWalk x = with("w5r?h4l?", "");
+        int ways = 0;
+        int first = DuckWalk.NONE;
+        for (int round = 9; round >= 1; round--) {
+            walkerBy(x, 1, "w5h4l?r" + round);
+            ways += x.would(1, 0, 20, 10);
+            first = x.asked() == DuckWalk.NONE ? first : x.asked();
+        }
+        tells(x, "two not told", x.would(0, 0, 20, 10), ways, first);
+    }
+
+    /** WAX of 9 beneath LEFT alone, on the flat: 0, 8, 3, 11, 3, 11; on RIGHT first it would REST. */
+    private static void footNoughtFirst() {
+        DuckWalk x = with("w5r6h4l5i9", "");
+        promise = 24;
+        tells(x, "LIMPING", x.going(0, 0, 0, 0), 2, 2);
+        promise = 25;
+        due("apart", x.mark(0, 0, 0, 0, 2), 8);
+        promise = 36;
+        tells(x, "yard", x.yard(0, 0, 0, 0, 6), 2, 4);
+        promise = 38;
+        // 8 - 3 = 5, 5 - 1 - 1 = 3; but 4 - 1 - 1 = 2
+        due("at STEP 0", x.bears(0, 0, 0, 0, 0), 3);
+        // 11 - 6 = 5, likewise
+        due("at STEP 98", x.bears(0, 0, 0, 0, 98), 6);
+        due("at STEP 99, at PACE 3", x.bears(0, 0, 0, 0, 99), 0);
+        promise = 39;
+        walkerBy(x, 1, "w5r6h4l5i9j9");
+        due("alike on FOOT 0", x.meets(0, 1, 0, 0, 0), 1);
+        promise = 37;
+        walkerBy(x, 2, "w5r6h4l5i2");
+        due("never EVEN by unlike WAX", x.push(2, 0, 10), DuckWalk.NONE);
     }
 
     private static void yards() {
@@ -885,6 +938,7 @@ public final class PromiseTests {
         walkerBy(x, 1, "w5r1h1");
         // by 9 and 10 it comes to RESTS, by 11 it does not
         due("the most, though not all below", x.bears(1, 0, 28, 8, 0), 11);
+        due("by 1 and 2 it RESTS", x.bears(1, 0, 28, 8, 1), 3);
         due("by 0 it RESTS, by 4 it does not", x.bears(1, 0, 26, 5, 0), DuckWalk.NONE);
         bad("t 100", x.bears(0, 0, 20, 10, 100));
         bad("t -1", x.bears(0, 0, 20, 10, -1));
