@@ -916,7 +916,7 @@ public final class DuckWalk {
 
     /** A TEXT; its size is -1 while it is missing. */
     private static final class Script {
-        static final int BEHIND = 1000;
+        private static final int BEHIND = 1000;
 
         final byte[] bytes = new byte[TEXT_MOST];
         int size = -1;
