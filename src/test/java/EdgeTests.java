@@ -176,7 +176,7 @@ public final class EdgeTests {
     }
 
     private static void copying() {
-        Due.says(6, "come to those of another one (perhaps itself) from one on, as if taken ahead: 1.");
+        Due.says(6, "n places of a ROW, from one on, come to those of another one (perhaps itself) from one on, as if taken ahead: 1.");
         DuckWalk x = new DuckWalk();
         Due.rowBy(x, 0, 1, 2, 3, 4);
         Due.rowBy(x, 1, 7, 8, 9);
@@ -207,7 +207,11 @@ public final class EdgeTests {
             Due.refused("copy(0, " + args + " to itself", Due::full, y -> y.copy(0, b[0], 0, b[1], b[2]), Due.FINDING,
                 BEYOND);
         }
-        Due.says(6, "SIZE: n below 0; NOTHING: either;");
+        Due.says(6, "BAD; SIZE: n below 0; NOTHING: either;");
+        for (int r : new int[] {-1, 6, LOW, TOP}) {
+            Due.refused("from ROW " + r, Due::full, y -> y.copy(r, 0, 1, 0, 1), BAD, 0);
+            Due.refused("to ROW " + r, Due::full, y -> y.copy(0, 0, r, 0, 1), BAD, 0);
+        }
         Due.refused("n -1", Due::full, y -> y.copy(0, 0, 1, 0, -1), Due.FINDING, SIZE);
         Due.refused("n LOW", Due::full, y -> y.copy(0, 0, 1, 0, LOW), Due.FINDING, SIZE);
         Due.refused("the first missing", Due::lastMissing, y -> y.copy(5, 0, 0, 0, 0), Due.FINDING, NOTHING);
@@ -500,7 +504,8 @@ public final class EdgeTests {
     }
 
     private static void abouts() {
-        Due.says(13, "6 which of the first four are not told (bits), all told by asked(): 1. BAD; NOTHING.");
+        Due.says(13, "Of a WALKER: 0 WIDE, 1 ROUND, 2 HIGH, 3 LEGS, 4 LEFT, 5 RIGHT, 6 which of the first four are not told (bits), all told by asked(): 1. BAD; NOTHING.");
+        isWalker(Due.with("w1r2h3l4i5j6", ""), "each one unlike", 0, 1, 2, 3, 4, 5, 6, 0);
         DuckWalk x = Due.with("w?l?i2", "");
         Due.tells(x, "the first", x.about(0, 0), 1, 5);
         Due.tells(x, "the last", x.about(0, 6), 1, 9);
@@ -752,7 +757,15 @@ public final class EdgeTests {
     }
 
     private static void tolds() {
-        Due.says(18, "0 its PACE, 1 its next FOOT, 2 STEPS done, 3 0 it goes, 1 it RESTS, 2 it FELL, 4 SLOPE");
+        Due.says(18, "Of the WALK: 0 its PACE, 1 its next FOOT, 2 STEPS done, 3 0 it goes, 1 it RESTS, 2 it FELL, 4 SLOPE");
+        // 10 + 10 - 6 - 1 = 13, 13 + 10 - 10 - 1 = 12: DAMP 16; 6 and 10 are lost, 5 and 1 twice went
+        DuckWalk w = Due.with("w5r6h4l5", "");
+        w.walk(0, 0, 20, 10, 1);
+        w.go(2);
+        int[] all = {12, 1, 2, 0, 20, 16, 12};
+        for (int what = 0; what <= 6; what++) {
+            Due.tells(w, "told(" + what + ")", w.told(what), 1, all[what]);
+        }
         for (int v : new int[] {-1, 7, LOW, TOP}) {
             Due.refused("told(" + v + ")", Due::full, y -> y.told(v), BAD, 0);
             Due.refused("told(" + v + ") of none", DuckWalk::new, y -> y.told(v), BAD, 0);
@@ -917,7 +930,7 @@ public final class EdgeTests {
     }
 
     private static void turning() {
-        Due.says(23, "modulo 360 (0 .. 359); after how many STEPS it first heads as at first again (NONE: RIGHT and LEFT are alike) by asked(). STATE.");
+        Due.says(23, "Its heading after all STEPS done: for each of them RIGHT less LEFT (of its WAX), all together, modulo 360 (0 .. 359); after how many STEPS it first heads as at first again (NONE: RIGHT and LEFT are alike) by asked(). STATE.");
         int[] again = {NONE, 360, 180, 120, 90, 72, 60, 360, 45, 40};
         for (int turn = -9; turn <= 9; turn++) {
             String feet = turn < 0 ? "i" + -turn : "j" + turn;
@@ -968,7 +981,7 @@ public final class EdgeTests {
                 Due.due("RUNNING", x.mark(0, 0, slope, pace, 6), kind == 6 ? half * 2 - pace : Due.FINDING);
             }
         }
-        Due.says(24, "its KIND; ROUND TRIP by asked() (0: none). BAD; NOTHING.");
+        Due.says(24, "A GOING of a WALKER on a BOARD, a SLOPE, from a PACE (0 .. 99): its KIND; ROUND TRIP by asked() (0: none). BAD; NOTHING.");
         DuckWalk x = Due.with("w5r6h4l5", "b0:9b1:9");
         // on the flat: 4 - 1 - 1 = 2; 5 - 1 - 1 = 3
         Due.tells(x, "it RESTS by one STEP", x.going(0, 0, 0, 4), 4, 0);
@@ -1018,7 +1031,7 @@ public final class EdgeTests {
                 Due.refused(walkers[n] + " as KIND " + kind, scene, call, told, told == Due.FINDING ? UNLIKE : 0);
             }
         }
-        Due.says(25, "a STOPPING, a FALLING one after how many STEPS");
+        Due.says(25, "a STOPPING, a FALLING one after how many STEPS,");
         DuckWalk x = Due.with("w1r6h1l3j3", "u0");
         Due.due("it FALLS after 14", x.mark(0, 0, 75, 8, 5), 14);
         x.walk(0, 0, 75, 8, 0);
@@ -1098,7 +1111,7 @@ public final class EdgeTests {
     }
 
     private static void mends() {
-        Due.says(28, "from d (1 .. 20) more than its EVEN PACE it first has that again. NONE: not within 400. BAD; NOTHING; UNLIKE: it does not WALK well.");
+        Due.says(28, "It WALKS well on a SLOPE from a PACE: after how many STEPS (FOOT 0 first) from d (1 .. 20) more than its EVEN PACE it first has that again. NONE: not within 400. BAD; NOTHING; UNLIKE: it does not WALK well.");
         DuckWalk x = Due.with("w5r6h4l5", "b0:9");
         Due.due("d 1", x.mends(0, 0, 20, 10, 1), 1);
         // Out of 12 and 20: 32 + 10 - 64 - 1 is below 3.
@@ -1165,7 +1178,7 @@ public final class EdgeTests {
     }
 
     private static void mend() {
-        Due.says(30, "it WALKS well on a SLOPE from a PACE; the PACE then by asked(). NONE: by none. BAD; NOTHING.");
+        Due.says(30, "The least WAX (LEFT and RIGHT together; of alike ones the least LEFT), as 10 times LEFT and RIGHT, by which, anew beneath both FEET, it WALKS well on a SLOPE from a PACE; the PACE then by asked(). NONE: by none. BAD; NOTHING.");
         DuckWalk x = Due.with("w5r6h4l5i3", "b0:9");
         Due.tells(x, "by no WAX", x.mend(0, 0, 20, 10), 0, 12);
         // on the flat, DAMP 16, from 3: 3 + 9 - 0 - 9 = 3 by RUB 9
@@ -1324,7 +1337,7 @@ public final class EdgeTests {
             Due.due("made of " + walkers[n], x.made(0, 0, 0, 0), all[n]);
             Due.fraction(x, "none WALKS well on the flat", 0, 1);
         }
-        Due.says(34, "The part of all WANDER that WALKS well on a SLOPE from a PACE, told by upper(), lower(): how many of them there are.");
+        Due.says(34, "The part of all WANDER that WALKS well on a SLOPE from a PACE, told by upper(), lower(): how many of them there are. BAD; NOTHING.");
         // On the flat without RUB 3 stays 3 wherever DAMP is above 9: by all of them here.
         DuckWalk y = Due.with("w5r5h5", "u0");
         Due.due("all", y.made(0, 0, 0, 3), 27);
@@ -1350,11 +1363,11 @@ public final class EdgeTests {
     }
 
     private static void would() {
-        Due.says(35, "(1 .. 9 each; as it is, if all is told)");
+        Due.says(35, "In how many of all ways to tell what is not told of it (1 .. 9 each; as it is, if all is told)");
         DuckWalk x = Due.with("w5r6h4l5", "u1");
         Due.tells(x, "as it is, well", x.would(0, 0, 20, 10), 1, 5645);
         Due.tells(x, "as it is, not well", x.would(0, 0, 0, 10), 0, NONE);
-        Due.says(35, "the first such way by asked() (WIDE, ROUND, HIGH, LEGS as one number of four figures; NONE).");
+        Due.says(35, "a WALKER WALKS well on a SLOPE from a PACE; the first such way by asked() (WIDE, ROUND, HIGH, LEGS as one number of four figures; NONE).");
         // On the flat without RUB 3 stays 3 where DAMP is above 9: 8 and 2 times ROUND, less HIGH.
         DuckWalk y = Due.with("w?", "u0");
         Due.tells(y, "WIDE", y.would(0, 0, 0, 3), 9, 1555);
@@ -1457,7 +1470,7 @@ public final class EdgeTests {
     }
 
     private static void bears() {
-        Due.says(38, "The most d (0 .. 99) that a BUMP at STEP t (0 .. 99; no other ones) may take");
+        Due.says(38, "The most d (0 .. 99) that a BUMP at STEP t (0 .. 99; no other ones) may take, so that on a SLOPE from a PACE it has come to neither RESTS nor FALLS after 200 STEPS.");
         // DAMP 16, GAIN 10, RUB 1: 12 stays 12; less 9 it is 3, and then 12 again
         DuckWalk x = Due.with("w5r6h4l5", "b0:9b1:9b99:9");
         for (int t : new int[] {0, 1, 50, 98, 99}) {
@@ -1497,7 +1510,7 @@ public final class EdgeTests {
     }
 
     private static void meets() {
-        Due.says(39, "after how many STEPS (1 .. 400) both first have PACES alike, while both go. NONE: never. BAD; NOTHING.");
+        Due.says(39, "Two WALKERS on a BOARD, a SLOPE, each from a PACE, FOOT 0 first, without BUMPS: after how many STEPS (1 .. 400) both first have PACES alike, while both go. NONE: never. BAD; NOTHING.");
         DuckWalk x = Due.with("w5r6h4l5", "b0:9");
         Due.due("with itself", x.meets(0, 0, 0, 20, 10), 1);
         Due.walkerBy(x, 1, "w5r6h4l5j1");
@@ -1551,7 +1564,7 @@ public final class EdgeTests {
     }
 
     private static void askedByWhich() {
-        Due.says(40, "that was not refused (nor NONE) told; 0 before.");
+        Due.says(40, "What the latest lay(), at(), mean(), about(), rub(), told(), turns(), going(), lines(), begins(), wide(), mend(), limp(), part(), would(), yard(), push() that was not refused (nor NONE) told; 0 before.");
         Due.due("before", new DuckWalk().asked(), 0);
         Due.Call[] tell = {x -> x.lay(0, 1, 5), x -> x.at(0, 1), x -> x.mean(1), x -> x.about(0, 0), x -> x.rub(1, 3),
             x -> x.told(2), x -> x.turns(), x -> x.going(0, 0, 20, 10), x -> x.lines(0, 0, 10, 1),
@@ -1585,7 +1598,7 @@ public final class EdgeTests {
         Due.due("before", x.lower(), 1);
         x.made(0, 0, 20, 10);
         Due.fraction(x, "18 of 27", 2, 3);
-        Due.says(0, "in lowest terms, the lower number above 0 (0 by 1)");
+        Due.says(0, "Fractions are told by upper(), lower(), in lowest terms, the lower number above 0 (0 by 1).");
         x.made(0, 0, 99, 10);
         Due.fraction(x, "0 of 27", 0, 1);
         Due.rowBy(x, 0, 10, 13);
@@ -1691,7 +1704,7 @@ public final class EdgeTests {
     }
 
     private static void digests() {
-        Due.says(46, "of each WALKER (-1 once: missing) about() 0 to 6; of each BOARD (-1 once: missing) RUB");
+        Due.says(46, "count() 0 to 6; of each WALKER (-1 once: missing) about() 0 to 6; of each BOARD (-1 once: missing) RUB, of each STEP 0 to 99 all BUMPS together;");
         DuckWalk x = new DuckWalk();
         long h = on(17, 0, 0, 0, 0, 0, 0, 0);
         h = on(h, -1, -1, -1, -1);
@@ -1732,7 +1745,7 @@ public final class EdgeTests {
         h = on(h, 98, 0, 1, 2, 99, 2, 18);
         h = on(h, -1, -1, -1, -1, -1, -1);
         Due.due("a fallen one", y.digest(), on(h, -1, -1, -1, 0));
-        Due.says(46, "what it tells, not the 1 that it answers; asked() stays)");
+        Due.says(46, "h = 17; then h = 31 h + v for each v (of a call that tells by asked(): what it tells, not the 1 that it answers; asked() stays)");
         y.told(6);
         y.digest();
         Due.due("asked() stays", y.asked(), 18);

@@ -1,9 +1,15 @@
+import com.sun.management.ThreadMXBean;
+import java.lang.management.ManagementFactory;
+import java.lang.reflect.Array;
 import java.lang.reflect.Field;
 import java.lang.reflect.Method;
 import java.lang.reflect.Modifier;
 import java.nio.file.Files;
 import java.nio.file.Path;
+import java.util.ArrayDeque;
+import java.util.ArrayList;
 import java.util.Arrays;
+import java.util.IdentityHashMap;
 import java.util.List;
 import java.util.Set;
 import java.util.TreeSet;
@@ -29,8 +35,12 @@ public final class FaceTests {
     public static void main(String[] args) throws Exception {
         methods();
         fields();
+        documentsFace();
         insides();
         words();
+        lengths();
+        roomOfAnObject();
+        roomOfCalls();
         System.out.println(wrong == 0 ? "the face is as due" : wrong + " faults of the face");
         if (wrong != 0) {
             System.exit(1);
@@ -89,6 +99,34 @@ public final class FaceTests {
         holds(own <= 20, "some twenty fields: " + own);
     }
 
+    /** What the document's face says, line by line: it and no more. */
+    private static void documentsFace() throws Exception {
+        Path at = Path.of("../shared/DOC.md");
+        if (!Files.exists(at)) {
+            System.out.println("the document is not at hand: its face is not looked up");
+            return;
+        }
+        String document = Files.readString(at);
+        int from = document.indexOf("public final class DuckWalk {");
+        int to = document.indexOf("\n}", from);
+        holds(from >= 0 && to > from, "the document has no face");
+        if (from < 0 || to < from) {
+            return;
+        }
+        List<String> face = new ArrayList<>();
+        for (String line : document.substring(from, to).split("\n")) {
+            Matcher m = Pattern.compile("    public (int|long) (\\w+)\\((.*)\\);").matcher(line);
+            if (m.matches()) {
+                face.add(m.group(1) + " " + m.group(2) + "(" + m.group(3).replaceAll("(int|boolean) \\w+(, )?", "$1,").replaceAll(",$", "") + ")");
+            } else {
+                holds(line.contains("class DuckWalk") || line.equals("    public DuckWalk();") || line.equals(
+                    "    public static final int BAD = -1, FULL = -2, FINDING = -3, STATE = -4, SPENT = -6, NONE = -9;"),
+                    "the document's face has also " + line);
+            }
+        }
+        holds(face.equals(FACE), "the document's face is " + face);
+    }
+
     private static void insides() {
         Class<?>[] insides = DuckWalk.class.getDeclaredClasses();
         holds(insides.length < 12, "some twelve classes: " + insides.length);
@@ -106,5 +144,83 @@ public final class FaceTests {
         while (m.find()) {
             holds(false, "the code has " + m.group());
         }
+    }
+
+    /** Rule 11: methods stay short; in this file a method's head and its end stand alone, four or eight deep. */
+    private static void lengths() throws Exception {
+        List<String> lines = Files.readAllLines(Path.of("src/main/java/DuckWalk.java"));
+        String indent = null;
+        int begun = 0;
+        for (int n = 0; n < lines.size(); n++) {
+            String line = lines.get(n);
+            Matcher m = Pattern.compile("( {4}| {8})\\w[\\w\\[\\] ]*\\([^;=]*\\) \\{").matcher(line);
+            if (indent == null && m.matches()) {
+                indent = m.group(1);
+                begun = n;
+            } else if (indent != null && line.equals(indent + "}")) {
+                holds(n - begun < 60, "from line " + (begun + 1) + " on a method of " + (n - begun + 1) + " lines");
+                indent = null;
+            }
+            holds(line.chars().allMatch(c -> c >= 32 && c < 127), "line " + (n + 1) + " has another sign");
+        }
+        holds(indent == null, "a method without an end");
+    }
+
+    /** All runs live in one room of 600,000 objects, 7.3 million fields: an object takes few of them. */
+    private static void roomOfAnObject() throws Exception {
+        IdentityHashMap<Object, Boolean> seen = new IdentityHashMap<>();
+        ArrayDeque<Object> open = new ArrayDeque<>();
+        open.add(new DuckWalk());
+        long places = 0;
+        while (!open.isEmpty()) {
+            Object x = open.remove();
+            if (seen.put(x, true) != null) {
+                continue;
+            }
+            if (x.getClass().isArray()) {
+                int size = Array.getLength(x);
+                places += size;
+                for (int i = 0; i < size && !x.getClass().getComponentType().isPrimitive(); i++) {
+                    open.add(Array.get(x, i));
+                }
+                continue;
+            }
+            for (Field f : x.getClass().getDeclaredFields()) {
+                if (!Modifier.isStatic(f.getModifiers())) {
+                    places++;
+                    f.setAccessible(true);
+                    if (!f.getType().isPrimitive()) {
+                        open.add(f.get(x));
+                    }
+                }
+            }
+        }
+        holds(seen.size() < 150, "an object is made of " + seen.size() + " objects");
+        holds(places < 4000, "an object has " + places + " fields and elements");
+    }
+
+    /** Rule 12: what is made is made by the constructor; no call makes an object. */
+    private static void roomOfCalls() {
+        ThreadMXBean threads = (ThreadMXBean) ManagementFactory.getThreadMXBean();
+        DuckWalk x = Due.full();
+        long sum = dearCalls(x);
+        long before = threads.getCurrentThreadAllocatedBytes();
+        for (int n = 0; n < 12; n++) {
+            sum += dearCalls(x);
+        }
+        long made = threads.getCurrentThreadAllocatedBytes() - before;
+        holds(made < 100, "calls have made " + made + " bytes, " + sum);
+    }
+
+    private static long dearCalls(DuckWalk x) {
+        long sum = x.row(0, 60) + x.lay(0, 0, 5) + x.at(0, 0) + x.tear(5) + x.row(5, 3) + x.copy(0, 0, 0, 1, 9) + x.mean(0);
+        sum += x.text(3, 80) + x.put(3, 0, 'b') + x.fault(3, true) + x.fault(3, false) + x.walker(3, 0) + x.board(3, 1);
+        sum += x.about(2, 6) + x.rub(1, 3) + x.wax(0, 0, 0) + x.walk(0, 0, 20, 10, 0) + x.go(400) + x.told(6);
+        sum += x.tocks(60, 4) + x.tilt(20) + x.keep(2) + x.on(2) + x.turns() + x.going(0, 0, 20, 10);
+        sum += x.mark(0, 0, 20, 10, 1) + x.lines(0, 0, 10, 1) + x.begins(0, 0, 20) + x.mends(0, 0, 20, 10, 1);
+        sum += x.wide(0, 0, 10) + x.mend(0, 0, 60, 10) + x.limp(0, 0, 4) + x.odds(0, 0, 4) + x.part(0, 0, 10, 0);
+        sum += x.made(0, 0, 20, 10) + x.would(2, 0, 20, 10) + x.yard(0, 0, 20, 10, 2000) + x.push(0, 0, 99);
+        sum += x.bears(0, 0, 20, 10, 99) + x.meets(0, 1, 0, 20, 10) + x.asked() + x.upper() + x.lower() + x.count(2);
+        return sum + x.finding() + x.findings(1) + x.digest();
     }
 }
